@@ -176,12 +176,21 @@ public final class TrainsTest {
         return plant;
     }
 
+    /** The cleaning of the train has one half hour left. */
+    private static MembranePlant lastHalfHour() {
+        MembranePlant plant = fouled(5);
+        plant.clean(0);
+        plant.pass(true);
+        return plant;
+    }
+
     private static void cleanRefused() {
         Check.refused("6 too little", UnsupportedOperationException.class, TrainsTest::almostEnough, p -> p.clean(0));
         Check.refused("6 no tank", UnsupportedOperationException.class, TrainsTest::withoutTank, p -> p.clean(0));
         Check.refused("6 twice", IllegalStateException.class, Plants::full, p -> p.clean(1));
         Check.refused("6 twice and too little", IllegalStateException.class,
                 TrainsTest::emptyWhileCleaned, p -> p.clean(0));
+        Check.refused("6 in its last half hour", IllegalStateException.class, TrainsTest::lastHalfHour, p -> p.clean(0));
         Check.refused("6 no train, no tank", IndexOutOfBoundsException.class,
                 TrainsTest::withoutTank, p -> p.clean(1));
     }
@@ -301,13 +310,17 @@ public final class TrainsTest {
         plant.pass(true);
         Check.dueInt("10 fouling 4", 48, plant.productOf(0));
         Check.refused("10 being cleaned", IllegalStateException.class, Plants::full, p -> p.productOf(1));
+        Check.refused("10 in its last half hour", IllegalStateException.class,
+                TrainsTest::lastHalfHour, p -> p.productOf(0));
     }
 
     private static void energyOf() {
         int[][] rows = {
             // area, pressure, salinity, recovery, energy
             {10, 50, 25, 40, 313}, {8, 50, 25, 40, 250}, {7, 52, 25, 40, 242}, {20, 70, 20, 30, 2335},
-            {20, 30, 35, 30, 0}, {1, 30, 25, 60, 3}, {13, 47, 33, 37, 231}};
+            {20, 30, 35, 30, 0}, {1, 30, 25, 60, 3}, {13, 47, 33, 37, 231},
+            // A feed of 100 / 33, just above 3; an energy of 7 * 43 / 20, just above 15.
+            {1, 30, 25, 33, 6}, {1, 43, 30, 30, 16}};
         for (int[] row : rows) {
             MembranePlant plant = new MembranePlant();
             plant.addTrain(row[0]);
@@ -324,6 +337,8 @@ public final class TrainsTest {
         plant.pass(true);
         Check.dueInt("11 fouling 2", 308, plant.energyOf(0));
         Check.refused("11 being cleaned", IllegalStateException.class, Plants::full, p -> p.energyOf(1));
+        Check.refused("11 in its last half hour", IllegalStateException.class,
+                TrainsTest::lastHalfHour, p -> p.energyOf(0));
     }
 
     private static void readyTrains() {
