@@ -190,7 +190,8 @@ public final class TrainsTest {
         Check.refused("6 twice", IllegalStateException.class, Plants::full, p -> p.clean(1));
         Check.refused("6 twice and too little", IllegalStateException.class,
                 TrainsTest::emptyWhileCleaned, p -> p.clean(0));
-        Check.refused("6 in its last half hour", IllegalStateException.class, TrainsTest::lastHalfHour, p -> p.clean(0));
+        Check.refused("6 in its last half hour", IllegalStateException.class,
+                TrainsTest::lastHalfHour, p -> p.clean(0));
         Check.refused("6 no train, no tank", IndexOutOfBoundsException.class,
                 TrainsTest::withoutTank, p -> p.clean(1));
     }
