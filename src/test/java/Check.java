@@ -5,15 +5,25 @@ import java.util.function.Supplier;
 final class Check {
     private static int wrong;
     private static int looked;
+    private static String about = "";
 
     private Check() {
+    }
+
+    /** Names what the next answers are about, ahead of every answer that is not as due. */
+    static void about(String name) {
+        about = name;
+    }
+
+    static int looked() {
+        return looked;
     }
 
     static void due(String what, Object want, Object got) {
         looked++;
         if (!want.equals(got)) {
             wrong++;
-            System.out.println(what + ": answered " + got + ", due is " + want);
+            System.out.println(about + what + ": answered " + got + ", due is " + want);
         }
     }
 
@@ -36,6 +46,14 @@ final class Check {
         } catch (RuntimeException e) {
             return "throws." + e.getClass().getSimpleName();
         }
+    }
+
+    /** The call throws nothing. */
+    static void taken(String what, MembranePlant plant, Consumer<MembranePlant> call) {
+        due(what, "taken", answer(() -> {
+            call.accept(plant);
+            return "taken";
+        }));
     }
 
     /**

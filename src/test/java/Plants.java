@@ -46,4 +46,61 @@ final class Plants {
         plant.addTank(100);
         return plant;
     }
+
+    /** So many trains of the area 10, one tank, and the half hour 0 gone with them on. */
+    static MembranePlant withTrains(int count) {
+        MembranePlant plant = new MembranePlant();
+        for (int i = 0; i < count; i++) {
+            plant.addTrain(10);
+        }
+        plant.addTank(2000);
+        plant.pass(true);
+        return plant;
+    }
+
+    /** So many tanks of 30, 31 and 32, and the half hour 0 gone with one train on. */
+    static MembranePlant withTanks(int count) {
+        MembranePlant plant = new MembranePlant();
+        plant.addTrain(10);
+        for (int i = 0; i < count; i++) {
+            plant.addTank(30 + i);
+            plant.setDemand(i, 1, 40, 2 + i);
+        }
+        plant.pass(true);
+        return plant;
+    }
+
+    /** The small plant after as many half hours as make this fouling, its pressure 45. */
+    static MembranePlant fouled(int fouling) {
+        MembranePlant plant = small();
+        plant.setPressure(0, 45);
+        for (int i = 0; i < fouling; i++) {
+            plant.pass(true);
+        }
+        return plant;
+    }
+
+    /** A train whose cleaning takes 3 half hours, so many of which have passed. */
+    static MembranePlant cleaned(int passed) {
+        MembranePlant plant = fouled(20);
+        plant.clean(0);
+        for (int i = 0; i < passed; i++) {
+            plant.pass(true);
+        }
+        return plant;
+    }
+
+    /** More is demanded in this half hour than there can be, and nothing in the others. */
+    static MembranePlant shortAt(int halfHour) {
+        MembranePlant plant = small();
+        plant.setDemand(0, halfHour, halfHour, 101);
+        return plant;
+    }
+
+    /** Whatever is asked of it for some half hours, no schedule is allowed. */
+    static MembranePlant thirsty() {
+        MembranePlant plant = busy();
+        plant.setDemand(0, 0, 47, 200);
+        return plant;
+    }
 }

@@ -204,29 +204,23 @@ public final class SchedulesTest {
             Check.refused("27 index " + row[1] + " of " + row[0], IndexOutOfBoundsException.class, Plants::busy,
                     p -> p.isOnInBest(row[0], row[1]));
             Check.refused("27 index " + row[1] + " of " + row[0] + ", none allowed",
-                    IndexOutOfBoundsException.class, SchedulesTest::thirsty, p -> p.isOnInBest(row[0], row[1]));
+                    IndexOutOfBoundsException.class, Plants::thirsty, p -> p.isOnInBest(row[0], row[1]));
         }
-    }
-
-    private static MembranePlant thirsty() {
-        MembranePlant plant = Plants.busy();
-        plant.setDemand(0, 0, 47, 200);
-        return plant;
     }
 
     private static void noneAllowed() {
         Class<NoSuchElementException> kind = NoSuchElementException.class;
         for (int i = 1; i <= 6; i++) {
             int halfHours = i;
-            Check.refused("25 none for " + i, kind, SchedulesTest::thirsty, p -> p.bestCost(halfHours));
-            Check.refused("26 none for " + i, kind, SchedulesTest::thirsty, p -> p.bestCostByTrying(halfHours));
-            Check.refused("27 none for " + i, kind, SchedulesTest::thirsty, p -> p.isOnInBest(halfHours, 0));
-            Check.dueInt("28 none for " + i, 0, thirsty().allowedSchedules(halfHours));
+            Check.refused("25 none for " + i, kind, Plants::thirsty, p -> p.bestCost(halfHours));
+            Check.refused("26 none for " + i, kind, Plants::thirsty, p -> p.bestCostByTrying(halfHours));
+            Check.refused("27 none for " + i, kind, Plants::thirsty, p -> p.isOnInBest(halfHours, 0));
+            Check.dueInt("28 none for " + i, 0, Plants.thirsty().allowedSchedules(halfHours));
         }
         for (int halfHours : WRONG) {
-            Check.refused("25 none, for " + halfHours, IllegalArgumentException.class, SchedulesTest::thirsty,
+            Check.refused("25 none, for " + halfHours, IllegalArgumentException.class, Plants::thirsty,
                     p -> p.bestCost(halfHours));
-            Check.refused("26 none, for " + halfHours, IllegalArgumentException.class, SchedulesTest::thirsty,
+            Check.refused("26 none, for " + halfHours, IllegalArgumentException.class, Plants::thirsty,
                     p -> p.bestCostByTrying(halfHours));
         }
     }

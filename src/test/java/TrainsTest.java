@@ -116,22 +116,12 @@ public final class TrainsTest {
         }
     }
 
-    /** A train with this fouling and a full tank; below 46 a half hour fouls by 1. */
-    private static MembranePlant fouled(int fouling) {
-        MembranePlant plant = Plants.small();
-        plant.setPressure(0, 45);
-        for (int i = 0; i < fouling; i++) {
-            plant.pass(true);
-        }
-        return plant;
-    }
-
     private static void clean() {
         int[] foulings = {1, 19, 20, 39, 40, 59, 60, 79, 80, 90, 95};
         int[] halfHours = {2, 2, 3, 3, 4, 4, 5, 5, 6, 6, 6};
         int[] after = {0, 4, 5, 9, 10, 14, 15, 19, 20, 22, 22};
         for (int i = 0; i < foulings.length; i++) {
-            MembranePlant plant = fouled(foulings[i]);
+            MembranePlant plant = Plants.fouled(foulings[i]);
             String name = "6 fouling " + foulings[i];
             int level = plant.level(0);
             Check.dueInt(name + " half hours", halfHours[i], plant.clean(0));
@@ -178,7 +168,7 @@ public final class TrainsTest {
 
     /** The cleaning of the train has one half hour left. */
     private static MembranePlant lastHalfHour() {
-        MembranePlant plant = fouled(5);
+        MembranePlant plant = Plants.fouled(5);
         plant.clean(0);
         plant.pass(true);
         return plant;
@@ -257,7 +247,7 @@ public final class TrainsTest {
     }
 
     private static void cleaningLeft() {
-        MembranePlant plant = fouled(20);
+        MembranePlant plant = Plants.fouled(20);
         plant.addTrain(2);
         Check.dueInt("9 ready", 0, plant.cleaningLeft(0));
         plant.clean(0);
@@ -279,7 +269,7 @@ public final class TrainsTest {
 
     /** A cleaning is as long as the fouling at its beginning says, whatever is set afterwards. */
     private static void cleanedAsSetUp() {
-        MembranePlant plant = fouled(8);
+        MembranePlant plant = Plants.fouled(8);
         plant.clean(0);
         plant.setPressure(0, 70);
         plant.pass(true);
