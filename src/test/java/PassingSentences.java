@@ -100,10 +100,11 @@ final class PassingSentences {
         MembranePlant plant = Plants.withTrains(4);
         plant.clean(0);
         plant.clean(3);
-        plant.setDemand(0, 1, 3, 98);
-        // 200 less two cleanings, then 98 out of the present half hour's product: the level stays.
+        plant.setDemand(0, 1, 1, 200);
+        // 200 less two cleanings are too little without the present half hour's product.
         Check.dueInt("two of four run", 98, plant.pass(true));
-        Check.dueInt("what they give is served at once", 180, plant.level(0));
+        Check.dueInt("what they give is served at once", 0, plant.shortOf(0));
+        Check.dueInt("level", 200 - 20 + 98 - 200, plant.level(0));
         Check.dueInt("the first goes on being cleaned", 1, plant.cleaningLeft(0));
         Check.dueInt("the last goes on being cleaned", 1, plant.cleaningLeft(3));
         Check.dueInt("a ready one has run", 4, plant.fouling(1));
@@ -150,10 +151,10 @@ final class PassingSentences {
         MembranePlant full = new MembranePlant();
         full.addTrain(10);
         full.addTank(50);
-        full.setDemand(0, 0, 1, 30);
+        full.setDemand(0, 1, 1, 30);
         full.pass(true);
         full.pass(true);
-        Check.dueLong("poured ahead of the serving", 19, full.spilled());
+        Check.dueLong("poured ahead of the serving", 49, full.spilled());
     }
 
     /** The level is 50 when the tank serves; then it is off. */

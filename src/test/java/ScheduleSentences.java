@@ -186,7 +186,8 @@ final class ScheduleSentences {
 
     /** A plant that differs with its number, at a half hour from 40 to 49. */
     private static MembranePlant various(int seed) {
-        Random random = new Random(seed);
+        // Small numbers that follow each other would begin with the same choices.
+        Random random = new Random(seed * 1_000_003L);
         MembranePlant plant = new MembranePlant();
         int trains = 1 + random.nextInt(4);
         for (int i = 0; i < trains; i++) {
@@ -195,9 +196,9 @@ final class ScheduleSentences {
         }
         int passed = 40 + random.nextInt(10);
         for (int i = 0; i < 2; i++) {
-            plant.addTank(20 + random.nextInt(100));
+            plant.addTank(30 + random.nextInt(70 * trains));
             for (int slot = 0; slot < 48; slot++) {
-                int wanted = random.nextInt(3) == 0 ? random.nextInt(10 + 10 * trains) : 0;
+                int wanted = random.nextInt(2 + i) == 0 ? random.nextInt(5 + 16 * trains) : 0;
                 plant.setDemand(i, slot, slot, wanted);
             }
         }
@@ -278,6 +279,8 @@ final class ScheduleSentences {
             plant.setPrice(0, 5, 99);
             Check.dueInt("dear", 99 * 313, plant.bestCost(6));
         }
+        Check.dueInt("on at first for one less", 4 * 33 + 25, costsByOne(4, 5).bestCost(3));
+        Check.dueInt("on at first for one more", 33 + 30 * 25, costsByOne(23, 30).bestCost(3));
         MembranePlant most = new MembranePlant();
         most.setSalinity(20);
         most.setRecovery(30);
@@ -293,6 +296,17 @@ final class ScheduleSentences {
         int energy = 2335 + 2265 + 2195 + 2125 + 2055 + 1985;
         Check.dueInt("as much as six half hours can cost", 4 * 99 * energy, most.bestCost(6));
         Check.dueInt("as much, by trying", 4 * 99 * energy, most.bestCostByTrying(6));
+    }
+
+    /** Two of three half hours must be on, the first of them for an energy of 33, the second for 25. */
+    private static MembranePlant costsByOne(int firstPrice, int lastPrice) {
+        MembranePlant plant = new MembranePlant();
+        plant.addTrain(1);
+        plant.addTank(100);
+        plant.setDemand(0, 2, 2, 9);
+        plant.setPrice(0, 0, firstPrice);
+        plant.setPrice(2, 2, lastPrice);
+        return plant;
     }
 
     /** Asked for so many half hours, the demand in the last one of them counts, and none that comes later. */

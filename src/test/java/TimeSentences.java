@@ -1,3 +1,7 @@
+import java.util.List;
+import java.util.function.Consumer;
+import java.util.function.Supplier;
+
 /** The sentences on use, time, trains and the sea. */
 final class TimeSentences {
     private TimeSentences() {
@@ -19,7 +23,7 @@ final class TimeSentences {
         Sentences.test(0, "The recovery is a percentage from 30 to 60, initially 40.", TimeSentences::recovery);
     }
 
-    /** Of 512 calls as many as may be let 12 half hours pass, each one as dear as it can be. */
+    /** As many of 512 calls as can do so let 12 half hours pass, all of them on. */
     private static void mostCalls() {
         MembranePlant plant = new MembranePlant();
         for (int i = 0; i < 4; i++) {
@@ -28,7 +32,7 @@ final class TimeSentences {
         }
         plant.setSalinity(20);
         plant.setRecovery(30);
-        plant.setPrice(0, 47, 99);
+        plant.setPrice(0, 46, 99);
         plant.addTank(1);
         plant.setDemand(0, 0, 47, 200);
         for (int call = 14; call <= 507; call++) {
@@ -39,7 +43,7 @@ final class TimeSentences {
         for (int i = 0; i < passed; i++) {
             int product = 20 * 50 * (100 - Math.min(90, 3 * i)) / 500;
             int feed = (int) Math.ceil(product * 100 / 30.0);
-            cost += 4 * 99 * (long) Math.ceil(feed * 70 / 20.0);
+            cost += 4 * (i % 48 == 47 ? 1 : 99) * (long) Math.ceil(feed * 70 / 20.0);
         }
         Check.dueInt("call 508", passed, plant.halfHour());
         Check.dueInt("call 509", passed * 199, plant.shortOf(0));
@@ -49,35 +53,31 @@ final class TimeSentences {
     }
 
     private static void readingCalls() {
-        MembranePlant plant = Plants.full();
-        String before = View.of(Plants.full());
-        plant.fouling(0);
-        plant.wear(0);
-        plant.cleaningLeft(1);
-        plant.productOf(0);
-        plant.energyOf(0);
-        plant.readyTrains();
-        plant.demand(0, 0);
-        plant.level(0);
-        plant.shortOf(0);
-        plant.halfHour();
-        for (int i = 1; i <= 6; i++) {
-            int halfHours = i;
-            Check.answer(() -> plant.bestCost(halfHours));
-            Check.answer(() -> plant.bestCostByTrying(halfHours));
-            Check.answer(() -> plant.isOnInBest(halfHours, 0));
-            plant.allowedSchedules(halfHours);
+        List<Consumer<MembranePlant>> calls = List.of(
+                p -> p.fouling(0), p -> p.wear(0), p -> p.cleaningLeft(1), p -> p.productOf(0), p -> p.energyOf(0),
+                MembranePlant::readyTrains, p -> p.demand(0, 0), p -> p.level(0), p -> p.shortOf(0),
+                MembranePlant::halfHour, p -> p.bestCost(1), p -> p.bestCost(6), p -> p.bestCostByTrying(1),
+                p -> p.bestCostByTrying(6), p -> p.isOnInBest(1, 0), p -> p.isOnInBest(6, 5),
+                p -> p.allowedSchedules(1), p -> p.allowedSchedules(6), MembranePlant::feed, MembranePlant::product,
+                MembranePlant::brine, MembranePlant::spilled, MembranePlant::spilledByBalance, MembranePlant::cost,
+                MembranePlant::isBalanced, MembranePlant::servedShare, MembranePlant::meanCost);
+        String untouched = View.afterUse(planned());
+        String viewed = View.of(planned());
+        for (int i = 0; i < calls.size(); i++) {
+            MembranePlant plant = planned();
+            Check.taken("call " + i, plant, calls.get(i));
+            Check.due("after call " + i, untouched, View.afterUse(plant));
+            MembranePlant asked = planned();
+            calls.get(i).accept(asked);
+            Check.due("all after call " + i, viewed, View.of(asked));
         }
-        plant.feed();
-        plant.product();
-        plant.brine();
-        plant.spilled();
-        plant.spilledByBalance();
-        plant.cost();
-        plant.isBalanced();
-        plant.servedShare();
-        plant.meanCost();
-        Check.due("all after them", before, View.of(plant));
+    }
+
+    /** The full plant with a smaller demand, so that schedules are allowed. */
+    private static MembranePlant planned() {
+        MembranePlant plant = Plants.full();
+        plant.setDemand(1, 4, 20, 2);
+        return plant;
     }
 
     private static void numbers() {
@@ -153,7 +153,7 @@ final class TimeSentences {
         Check.dueInt("all four run", 25 + 30 + 35 + 40, plant.pass(true));
     }
 
-    private static java.util.function.Supplier<Object> firstFree(MembranePlant plant, int train) {
+    private static Supplier<Object> firstFree(MembranePlant plant, int train) {
         return () -> plant.fouling(train);
     }
 

@@ -185,7 +185,9 @@ final class TrainSentences {
         });
         Sentences.test(8, none, () -> Edges.noSuchTrain((p, train) -> p.wear(train)));
         Sentences.test(9, "Returns the number of half hours, 0 if it is ready.", () -> {
-            Check.dueInt("ready", 0, Plants.fouled(20).cleaningLeft(0));
+            for (int i = 0; i < 4; i++) {
+                Check.dueInt("ready", 0, Plants.fouled(i).cleaningLeft(0));
+            }
             for (int i = 0; i <= 4; i++) {
                 Check.dueInt("after " + i, Math.max(0, 3 - i), Plants.cleaned(i).cleaningLeft(0));
             }

@@ -20,6 +20,16 @@ final class View {
         return view.text.toString();
     }
 
+    /** What the calls tell that change something, and then all meters. */
+    static String afterUse(MembranePlant plant) {
+        View view = new View(plant);
+        view.useUp();
+        view.readTrains();
+        view.readTanks();
+        view.readMeters();
+        return view.text.toString();
+    }
+
     private void put(String name, java.util.function.Supplier<Object> call) {
         text.append(name).append('=').append(Check.answer(call)).append(' ');
     }
