@@ -43,6 +43,7 @@ public final class FaceTest {
         }
         Check.due("methods", due, methods);
         classes(publicNames, privateNames);
+        sizes(MembranePlant.class);
         privateNames.retainAll(publicNames);
         Check.due("private names that are public ones", Set.of(), privateNames);
         outside();
@@ -74,6 +75,7 @@ public final class FaceTest {
             Check.dueBool(one.getName() + " is static", true, Modifier.isStatic(modifiers));
             Check.dueBool(one.getName() + " is inside", false,
                     Modifier.isPublic(modifiers) || Modifier.isProtected(modifiers));
+            sizes(one);
             for (Method method : one.getDeclaredMethods()) {
                 privateNames.add(method.getName());
             }
@@ -81,6 +83,17 @@ public final class FaceTest {
                 boolean open = Modifier.isStatic(field.getModifiers()) && !Modifier.isFinal(field.getModifiers());
                 Check.dueBool("static state " + field, false, open);
             }
+        }
+    }
+
+    private static void sizes(Class<?> one) {
+        int fields = 0;
+        for (Field field : one.getDeclaredFields()) {
+            fields += Modifier.isStatic(field.getModifiers()) ? 0 : 1;
+        }
+        Check.dueBool("at most twenty fields in " + one.getName(), true, fields <= 20);
+        for (Method method : one.getDeclaredMethods()) {
+            Check.dueBool("at most seven parameters of " + method, true, method.getParameterCount() <= 7);
         }
     }
 
